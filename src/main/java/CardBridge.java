@@ -370,23 +370,23 @@ public final class CardBridge {
         for (int what = 0; what < COUNTS; what++) {
             d = d * 31 + count(what);
         }
-        for (int j = 0; j < JOINTS_MAX && j < bridge.joints(); j++) {
+        for (int j = 0; j < bridge.joints(); j++) {
             for (int what = 0; what < FACTS; what++) {
                 d = d * 31 + joint(j, what);
             }
         }
-        for (int c = 0; c < CARDS_MAX && c < bridge.cards(); c++) {
+        for (int c = 0; c < bridge.cards(); c++) {
             for (int what = 0; what < FACTS; what++) {
                 d = d * 31 + card(c, what);
             }
         }
-        for (int i = 0; i < SETS_MAX && i < guesses.size(); i++) {
+        for (int i = 0; i < guesses.size(); i++) {
             d = d * 31 + guesses.setAt(i);
         }
         d = d * 31 + flow.borne();
         d = d * 31 + flow.cardsToBlame();
         d = d * 31 + flow.fewestToCut();
-        for (int i = 0; i < PAPER_MAX && i < paper.size(); i++) {
+        for (int i = 0; i < paper.size(); i++) {
             d = d * 31 + paper.signAt(i);
         }
         return d;
@@ -839,13 +839,11 @@ public final class CardBridge {
         int designError(Bridge draft) {
             draft.empty();
             int error = NO_ERROR;
-            for (at = 0; at < tokens.size(); at++) {
+            for (int n = 0; n < tokens.size() && error == NO_ERROR; n++) {
+                at = n;
                 error = designErrorHere(draft);
-                if (error != NO_ERROR) {
-                    return error;
-                }
             }
-            return NO_ERROR;
+            return error;
         }
 
         private int designErrorHere(Bridge draft) {
@@ -880,13 +878,11 @@ public final class CardBridge {
         /** Puts the joint's or card's number in the place of each name, till there is an error. */
         int scriptError(Bridge bridge) {
             int error = NO_ERROR;
-            for (at = 0; at < tokens.size(); at++) {
+            for (int n = 0; n < tokens.size() && error == NO_ERROR; n++) {
+                at = n;
                 error = scriptErrorHere(bridge);
-                if (error != NO_ERROR) {
-                    return error;
-                }
             }
-            return NO_ERROR;
+            return error;
         }
 
         private int scriptErrorHere(Bridge bridge) {
@@ -1134,16 +1130,16 @@ public final class CardBridge {
         }
 
         int borne() {
-            return bridge.allLoads() - notBorneNow(0);
+            return bridge.allLoads() - notBorne(0, bridge.cutCards(), NONE, 0);
         }
 
-        /** How much of the loads, as they are, does not come to piers with these beams. */
-        int notBorneNow(int beams) {
-            return notBorne(beams, bridge.cutCards(), NONE, 0);
+        /** Whether the bridge holds with these beams, and with this load of one joint (NONE: with all as they are). */
+        boolean isHeld(int beams, int joint, int load) {
+            return notBorne(beams, bridge.cutCards(), joint, load) == 0;
         }
 
-        /** The same with other cards cut, and with another load of one joint (NONE: with all as they are). */
-        int notBorne(int beams, int cutCards, int joint, int load) {
+        /** How much of all loads does not come to piers with these beams and cuts, and this load of one joint. */
+        private int notBorne(int beams, int cutCards, int joint, int load) {
             layCards(beams, cutCards);
             putLoads(joint, load);
             // Each way takes at least 1 of the loads along.
@@ -1159,7 +1155,7 @@ public final class CardBridge {
 
         /** The greatest load of a joint with which the bridge holds with these beams; -1 if there is none. */
         int greatestLoad(int joint, int beams) {
-            if (notBorne(beams, bridge.cutCards(), joint, 0) > 0) {
+            if (!isHeld(beams, joint, 0)) {
                 return NONE;
             }
             // The other loads hold, so what is missing with the greatest load is missing from this joint alone.
@@ -1167,7 +1163,9 @@ public final class CardBridge {
         }
 
         int cardsToBlame() {
-            notBorneNow(0);
+            if (isHeld(0, NONE, 0)) {
+                return 0;
+            }
             // What the last, vain search for a way reached is the least of the sets that let too little out.
             int blamed = 0;
             for (int c = 0; c < CARDS_MAX; c++) {
@@ -1180,7 +1178,7 @@ public final class CardBridge {
         }
 
         int fewestToCut() {
-            if (notBorneNow(0) > 0) {
+            if (!isHeld(0, NONE, 0)) {
                 return 0;
             }
             int used = usedCards();
@@ -1233,10 +1231,8 @@ public final class CardBridge {
 
         private void putLoads(int joint, int load) {
             for (int j = 0; j < JOINTS_MAX; j++) {
-                left[j] = j == joint ? load : bridge.loadOf(j);
-                if (bridge.isPier(j)) {
-                    left[j] = 0;
-                }
+                int there = j == joint ? load : bridge.loadOf(j);
+                left[j] = isIn(j, bridge.piers()) ? 0 : there;
             }
         }
 
@@ -1254,7 +1250,7 @@ public final class CardBridge {
                     int next = ahead(c, queue[n]);
                     if (next != NONE && !isIn(next, reached)) {
                         reach(next, c);
-                        if (bridge.isPier(next)) {
+                        if (isIn(next, bridge.piers())) {
                             goal = next;
                             return true;
                         }
@@ -1378,14 +1374,14 @@ public final class CardBridge {
 
         /** Tells whether the bridge holds; a test that is kept leaves only the sets that tell the same. */
         boolean testBridge() {
-            boolean isHeld = flow.notBorneNow(bridge.beams()) == 0;
+            boolean isHeld = flow.isHeld(bridge.beams(), NONE, 0);
             if (tests < TESTS_MAX) {
                 tests++;
                 int before = size;
                 size = 0;
                 for (int i = 0; i < SETS_MAX && i < before; i++) {
                     int set = sets[i];
-                    if (flow.notBorneNow(set) == 0 == isHeld) {
+                    if (flow.isHeld(set, NONE, 0) == isHeld) {
                         add(set);
                     }
                 }
@@ -1406,7 +1402,7 @@ public final class CardBridge {
         int setsLeft(int joint, int load, boolean isHeld) {
             int left = 0;
             for (int i = 0; i < SETS_MAX && i < size; i++) {
-                if (flow.notBorne(sets[i], bridge.cutCards(), joint, load) == 0 == isHeld) {
+                if (flow.isHeld(sets[i], joint, load) == isHeld) {
                     left++;
                 }
             }
@@ -1605,10 +1601,7 @@ public final class CardBridge {
                     at++;
                     return !isSingleTrue(depth + 1);
                 case '{':
-                    at++;
-                    boolean isSo = isTrue(depth + 1);
-                    at++;
-                    return isSo;
+                    return isTrueInside(depth);
                 case HOLDS:
                     at++;
                     return guesses.testBridge();
@@ -1618,6 +1611,13 @@ public final class CardBridge {
                 default:
                     return isComparedSo(depth);
             }
+        }
+
+        private boolean isTrueInside(int depth) {
+            at++;
+            boolean is = isTrue(depth + 1);
+            at++;
+            return is;
         }
 
         private boolean isComparedSo(int depth) {
@@ -1686,15 +1686,20 @@ public final class CardBridge {
                 case '-':
                     return -value(depth + 1);
                 case '(':
-                    int inside = sum(depth + 1);
-                    at++;
-                    return inside;
+                    return sumInside(depth);
                 default:
                     return chosen(kind, depth);
             }
         }
 
-        /** The ( , sum ) of a min or max. */
+        /** Goes on behind the ( of a sum. */
+        private int sumInside(int depth) {
+            int inside = sum(depth + 1);
+            at++;
+            return inside;
+        }
+
+        /** Goes on behind a min or max. */
         private int chosen(int kind, int depth) {
             at++;
             int one = sum(depth + 1);
