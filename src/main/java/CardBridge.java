@@ -1193,9 +1193,8 @@ public final class CardBridge {
 
         /** Sets without a card that is used now are passed over: without them the loads come along as they do now. */
         private int leastToCut(int size, int used) {
-            for (int set = 1; set < 1 << CARDS_MAX; set++) {
+            for (int set = 1; set < 1 << CARDS_MAX && set >> bridge.cards() == 0; set++) {
                 if (Integer.bitCount(set) == size && (set & used) != 0 && (set & bridge.cutCards()) == 0
-                        && set >> bridge.cards() == 0
                         && notBorne(0, bridge.cutCards() | set, NONE, 0) > 0) {
                     return set;
                 }
@@ -1365,8 +1364,8 @@ public final class CardBridge {
         void forgetTests() {
             tests = 0;
             size = 0;
-            for (int set = 0; set < 1 << CARDS_MAX; set++) {
-                if (set >> bridge.cards() == 0 && Integer.bitCount(set) <= BEAMS_MAX) {
+            for (int set = 0; set < 1 << CARDS_MAX && set >> bridge.cards() == 0; set++) {
+                if (Integer.bitCount(set) <= BEAMS_MAX) {
                     add(set);
                 }
             }

@@ -15,9 +15,11 @@ public final class OracleTests {
     private final CardBridge fast = new CardBridge();
     private final SlowBridge slow = new SlowBridge();
     private final String where;
-    /** Names of the bridge that was built last, and of one that may have failed. */
-    private List<String> joints = new ArrayList<>(List.of("z"));
-    private List<String> cards = new ArrayList<>(List.of("z"));
+    private List<String> joints = List.of("z");
+    private List<String> cards = List.of("z");
+    /** The names of the design that was written last, which become the bridge's if it has no error. */
+    private List<String> draftJoints = joints;
+    private List<String> draftCards = cards;
 
     private OracleTests(int run) {
         random = new Random(run);
@@ -239,6 +241,10 @@ public final class OracleTests {
         both("trim", x -> x.trim(length), x -> x.trim(length));
         if (what == ToBuild.BUILD) {
             both("build of " + text, x -> x.build(), x -> x.build());
+            if (slow.errorAt() < 0) {
+                joints = draftJoints;
+                cards = draftCards;
+            }
         } else {
             both("run of " + text, x -> x.run(), x -> x.run());
         }
@@ -270,7 +276,7 @@ public final class OracleTests {
             newJoints.add(name);
             text.append(i == 0 || isOneIn(4) ? "pier" : "joint").append(blank()).append(name).append(';');
         }
-        int count = isLarge ? 10 + upTo(3) : upTo(9);
+        int count = isLarge ? 10 + upTo(isOneIn(3) ? 3 : 2) : upTo(9);
         for (int i = 0; i < count; i++) {
             String name = name();
             String from = one(newJoints);
@@ -286,18 +292,18 @@ public final class OracleTests {
                     .append(isClean || !isOneIn(20) ? to : "nowhere").append(" bears ").append(bears)
                     .append(blank()).append(';');
         }
-        joints = newJoints;
-        cards = newCards.isEmpty() ? new ArrayList<>(List.of("z")) : newCards;
+        draftJoints = newJoints;
+        draftCards = newCards.isEmpty() ? List.of("z") : newCards;
         return text.toString();
     }
 
     private String script() {
         StringBuilder text = new StringBuilder();
-        int size = 1 + upTo(8);
+        int size = 1 + upTo(isOneIn(10) ? 40 : 8);
         for (int i = 0; i < size; i++) {
             statement(text, 0);
         }
-        if (isOneIn(15)) {
+        if (isOneIn(10)) {
             text.insert(0, "repeat 40 [").append(']');
         }
         return text.toString();

@@ -185,6 +185,14 @@ public final class PromiseTests {
         Check.buildIs(x, "", 0, -1);
         Check.same("an empty design has no joints", x.count(0), 0);
         Check.buildIs(x, "pier k; joint a; card k from k to a bears 3; card a from k to a bears 3;", 0, -1);
+        // Names that are nearly the same are others.
+        Check.buildIs(x, "pier az; joint a0; joint a9; joint ba; joint a; joint b; joint a00; joint zzzzzzzzzz; joint z999999999;"
+                + "joint zzzzzzzzz; card k from az to a0 bears 1;", 0, -1);
+        Check.runIs(x, "put zzzzzzzzzz 7; put z999999999 8; put a00 9; put a0 10;", 0, -1);
+        Check.same("zzzzzzzzzz", x.joint(7, 1), 7);
+        Check.same("z999999999", x.joint(8, 1), 8);
+        Check.same("a00", x.joint(6, 1), 9);
+        Check.same("a0", x.joint(1, 1), 10);
         Check.buildIs(x, twelveJoints() + twelveCards(), 0, -1);
         Check.same("twelve joints", x.count(0), 12);
         Check.same("twelve cards", x.count(2), 12);
@@ -941,6 +949,9 @@ public final class PromiseTests {
         Check.same("where all is known any load will do", y.advise(1), 0);
         Check.same("nothing is put", y.joint(1, 1), 7);
         Check.same("nothing is tested", y.count(5), 1);
+        CardBridge z = new CardBridge();
+        Check.build(z, "pier p; joint a; card k from p to a bears 30; card m from a to p bears 29;");
+        Check.same("only the greatest load tells something", z.advise(1), 60);
         Check.throwsOnly("advise(2)", y, Check.INDEX, () -> y.advise(2));
         Check.throwsOnly("advise(-1)", y, Check.INDEX, () -> y.advise(-1));
     }
