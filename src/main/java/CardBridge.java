@@ -1577,7 +1577,8 @@ public final class CardBridge {
             for (int n = 0; n < TOKENS_MAX && tokens.kindAt(at) == OR; n++) {
                 at++;
                 // Both sides are looked at, as a test in the right one is kept.
-                is = areBothTrue(depth) | is;
+                boolean isRight = areBothTrue(depth);
+                is = is || isRight;
             }
             return is;
         }
@@ -1586,7 +1587,8 @@ public final class CardBridge {
             boolean is = isSingleTrue(depth);
             for (int n = 0; n < TOKENS_MAX && tokens.kindAt(at) == AND; n++) {
                 at++;
-                is = isSingleTrue(depth) & is;
+                boolean isRight = isSingleTrue(depth);
+                is = is && isRight;
             }
             return is;
         }

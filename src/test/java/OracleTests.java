@@ -5,8 +5,12 @@ import java.util.function.ToLongFunction;
 
 /** Rows of calls, always the same ones, answered by CardBridge as by the slow and plain SlowBridge. */
 public final class OracleTests {
-    private static final int RUNS = 260;
+    private static final int RUNS = 500;
     private static final int CALLS = 120;
+    /** What the 513th call answers is free, so it is not asked. */
+    private static final int CALLS_PROMISED = 512;
+    /** Calls that are left over for the state at the end. */
+    private static final int CALLS_AT_END = 200;
     private static final String[] WORDS = ("pier joint card from to bears put take cut glue write repeat if else holds "
             + "hangs load all fits not and or min max ( ) [ ] { } ; , + - * / < > = <= >= 3 999999 1234567 abcdefghijk "
             + "zz @ 41 0").split(" ");
@@ -20,6 +24,7 @@ public final class OracleTests {
     /** The names of the design that was written last, which become the bridge's if it has no error. */
     private List<String> draftJoints = joints;
     private List<String> draftCards = cards;
+    private int asked = 0;
 
     private OracleTests(int run) {
         random = new Random(run);
@@ -48,17 +53,19 @@ public final class OracleTests {
     }
 
     private void calls() {
-        boolean isLarge = isOneIn(12);
+        boolean isLarge = isOneIn(24);
         tape(design(isLarge), ToBuild.BUILD);
         int calls = isLarge ? CALLS / 3 : CALLS;
-        for (int i = 0; i < calls; i++) {
+        for (int i = 0; i < calls && asked < CALLS_PROMISED - CALLS_AT_END; i++) {
             call(isLarge);
             if (i % 5 == 0) {
-                state();
+                shortState();
             }
         }
+        if (!isOneIn(3)) {
+            dear();
+        }
         state();
-        dear();
     }
 
     private enum ToBuild { BUILD, RUN }
@@ -143,8 +150,15 @@ public final class OracleTests {
         }
     }
 
-    /** What can be asked cheaply. */
+    private void shortState() {
+        both("digest", x -> x.digest(), x -> digest());
+        both("errorAt", x -> x.errorAt(), x -> x.errorAt());
+        both("share", x -> Double.doubleToLongBits(x.share()), x -> Double.doubleToLongBits(x.share()));
+    }
+
+    /** What can be asked cheaply, as far as calls are left. */
     private void state() {
+        shortState();
         for (int i = 0; i < 10; i++) {
             int what = i;
             both("count " + i, x -> x.count(what), x -> x.count(what));
@@ -169,10 +183,8 @@ public final class OracleTests {
             int index = i;
             both("byteAt " + i, x -> x.byteAt(index), x -> x.byteAt(index));
         }
-        both("errorAt", x -> x.errorAt(), x -> x.errorAt());
         both("bears", x -> x.bears(), x -> x.bears());
         both("blame", x -> x.blame(), x -> x.blame());
-        both("share", x -> Double.doubleToLongBits(x.share()), x -> Double.doubleToLongBits(x.share()));
     }
 
     private void dear() {
@@ -183,7 +195,6 @@ public final class OracleTests {
             both("safe " + i, x -> x.safe(j), x -> x.safe(j));
         }
         both("advise 0", x -> x.advise(0), x -> x.advise(0));
-        Check.same(where + ": digest", fast.digest(), digest());
     }
 
     private long digest() {
@@ -220,7 +231,10 @@ public final class OracleTests {
     }
 
     private void both(String what, ToLongFunction<CardBridge> one, ToLongFunction<SlowBridge> other) {
-        Check.same(where + ": " + what, answer(fast, one), answer(slow, other));
+        if (asked < CALLS_PROMISED) {
+            asked++;
+            Check.same(where + ": " + what, answer(fast, one), answer(slow, other));
+        }
     }
 
     private void tape(String text, ToBuild what) {

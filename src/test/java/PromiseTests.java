@@ -143,6 +143,7 @@ public final class PromiseTests {
         Check.runIs(x, "write 1000000;", 1, 6);
         Check.runIs(x, "repeat 1[write 1;]", 0, -1);
         Check.runIs(x, "repeat1[write 1;]", 1, 0);
+        x = new CardBridge();
         // 400 tokens, and the 401st, which is told at its place whatever it is; the end is not counted.
         Check.runIs(x, Check.times(399, "repeat 0[]").substring(0, 1000) + "   \n", 0, -1);
         Check.runIs(x, Check.times(100, "repeat 0[]") + " ;", 1, 1001);
@@ -154,8 +155,9 @@ public final class PromiseTests {
         Check.runIs(x, Check.times(99, "repeat 0[]") + "write --1;", 1, 999);
         for (String keyword : ("pier joint card from to bears put take cut glue write repeat if else holds hangs "
                 + "load all fits not and or min max").split(" ")) {
-            Check.buildIs(x, "pier " + keyword + ";", 1, 5);
-            Check.buildIs(x, "pier " + keyword + "0;", 0, -1);
+            CardBridge y = new CardBridge();
+            Check.buildIs(y, "pier " + keyword + ";", 1, 5);
+            Check.buildIs(y, "pier " + keyword + "0;", 0, -1);
         }
     }
 
@@ -926,8 +928,8 @@ public final class PromiseTests {
     }
 
     private static void advise() {
-        CardBridge x = small();
         for (int j = 0; j < 5; j++) {
+            CardBridge x = small();
             int due = 0;
             int fewest = 99;
             for (int load = 0; load <= 60; load++) {
