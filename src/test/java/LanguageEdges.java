@@ -247,6 +247,8 @@ public final class LanguageEdges {
         runs("repeat 000040 [ ]", 0, -1);
         runs("repeat 0000040 [ ]", 1, 7);
         runs("write 1 1000000;", 1, 8);
+        runs("write 1+1000000;", 1, 8);
+        runs("write(1000000);", 1, 6);
     }
 
     /** "Symbols: ( ) [ ] { } ; , + - * / < > = <= >=": each where it goes on, and all others nowhere. */
@@ -281,6 +283,14 @@ public final class LanguageEdges {
         runs("if holds [] else []", 0, -1);
         runs("[]", 1, 0);
         runs("repeat []", 1, 7);
+        // A statement begins with its keyword, and nothing else.
+        for (String other : new String[] {"holds[]", "1=1[]", "else[]", "not holds[]", "{holds}[]", "a 1;", "1;", ";", "bears;"}) {
+            runs(other, 1, 0);
+            runs("cut k;" + other, 1, 6);
+            runs("if holds[" + other + "]", 1, 9);
+        }
+        runs("if if holds[]", 1, 3);
+        runs("if;", 1, 2);
     }
 
     // ---- depth
@@ -606,6 +616,18 @@ public final class LanguageEdges {
         Check.same("no tests", x.count(5), 0);
         Check.same("all beams fit", x.count(6), 79);
         Check.same("no beams", x.hide(5), 1);
+        // What was a pier is none any more, be it of the bridge or of a design with an error.
+        CardBridge y = Bridges.built(Bridges.joints(12).replace("joint", "pier"));
+        Check.buildIs(y, "joint a; joint b; pier c; joint d;", 0, -1);
+        Check.same("one pier of four joints", y.count(1), 1);
+        Check.buildIs(y, "pier a; pier b; joint c; pier c;", 2, 30);
+        Check.same("it stays the only one", y.count(1), 1);
+        Check.buildIs(y, "joint a; joint b; joint c; joint d;", 0, -1);
+        Check.same("no pier of four joints", y.count(1), 0);
+        for (int j = 0; j < 4; j++) {
+            Check.same("the joint " + j + " is no pier", y.joint(j, 0), 0);
+            Check.same("the joint " + j + " does not hang", y.joint(j, 3), 0);
+        }
     }
 
     // ---- scripts
@@ -779,8 +801,8 @@ public final class LanguageEdges {
 
     /** "if the paper has 500 bytes or fewer with these; otherwise nothing is written." */
     private static void paperOfFiveHundred() {
-        String[] numbers = {"1", "-1", "12", "-12", "123456", "-123456", "65536*32767", "-65536*32768"};
-        int[] bytes = {2, 3, 3, 4, 7, 8, 11, 12};
+        String[] numbers = {"0", "1", "-1", "12", "-12", "123456", "-123456", "65536*32767", "-65536*32768"};
+        int[] bytes = {2, 2, 3, 3, 4, 7, 8, 11, 12};
         for (int i = 0; i < numbers.length; i++) {
             String script = "write " + numbers[i] + ";";
             for (int before = 500 - bytes[i] - 1; before <= 500; before++) {

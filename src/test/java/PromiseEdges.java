@@ -397,6 +397,15 @@ public final class PromiseEdges {
         Check.same("the least of more pairs", y.removal(), 1 | 1 << 1);
         y.put(6, 18);
         Check.same("it does not hold", y.removal(), 0);
+        // A beam in the card that stays would bear it.
+        for (int weak = 0; weak < 2; weak++) {
+            CardBridge z = Bridges.built("pier p; joint a; card k from p to a bears " + (weak == 0 ? 1 : 8)
+                    + "; card l from p to a bears " + (weak == 0 ? 8 : 1) + ";");
+            z.put(1, 5);
+            Check.same("the one that bears 8", z.removal(), weak == 0 ? 2 : 1);
+            z.hide(weak);
+            Check.same("beams are not known", z.removal(), weak == 0 ? 2 : 1);
+        }
     }
 
     /** "the greatest load of this one, 0 to 60 .. ; -1 if there is none". */

@@ -1,9 +1,5 @@
 /** For each promise its ordinary inputs, the edges that the document names, and wrong inputs. */
 public final class PromiseTests {
-    /** a hangs by k (4) from pier p, b by m (6) from a and by n (3) from pier q; c is joined to nothing. */
-    private static final String SMALL = "pier p; joint a; joint b; pier q; joint c;\n"
-            + "card k from p to a bears 4; card m from a to b bears 6; card n from q to b bears 3;";
-
     public static void main(String[] args) {
         newObject();
         feed();
@@ -41,19 +37,6 @@ public final class PromiseTests {
         share();
         digest();
         Check.end("PromiseTests");
-    }
-
-    private static CardBridge small() {
-        CardBridge x = new CardBridge();
-        Check.same("build of the small bridge", Check.build(x, SMALL), 0);
-        return x;
-    }
-
-    /** A bridge of one card, k, from the pier p to the joint a. */
-    private static CardBridge single(int bears) {
-        CardBridge x = new CardBridge();
-        Check.same("build of a single card", Check.build(x, "pier p; joint a; card k from p to a bears " + bears + ";"), 0);
-        return x;
     }
 
     private static void newObject() {
@@ -162,7 +145,7 @@ public final class PromiseTests {
     }
 
     private static void build() {
-        CardBridge x = small();
+        CardBridge x = Bridges.small();
         Check.same("joints", x.count(0), 5);
         Check.same("piers", x.count(1), 2);
         Check.same("cards", x.count(2), 3);
@@ -195,18 +178,10 @@ public final class PromiseTests {
         Check.same("z999999999", x.joint(8, 1), 8);
         Check.same("a00", x.joint(6, 1), 9);
         Check.same("a0", x.joint(1, 1), 10);
-        Check.buildIs(x, twelveJoints() + twelveCards(), 0, -1);
+        Check.buildIs(x, Bridges.joints(12) + twelveCards(), 0, -1);
         Check.same("twelve joints", x.count(0), 12);
         Check.same("twelve cards", x.count(2), 12);
         Check.same("79 sets of beams", x.count(6), 79);
-    }
-
-    private static String twelveJoints() {
-        StringBuilder text = new StringBuilder("pier j0;");
-        for (int j = 1; j < 12; j++) {
-            text.append("joint j").append(j).append(';');
-        }
-        return text.toString();
     }
 
     private static String twelveCards() {
@@ -219,7 +194,7 @@ public final class PromiseTests {
     }
 
     private static void buildErrors() {
-        CardBridge x = small();
+        CardBridge x = Bridges.small();
         x.put(1, 5);
         x.put(2, 30);
         x.cut(2);
@@ -251,10 +226,10 @@ public final class PromiseTests {
         Check.buildIs(x, "pier p; joint a; card k from p to a bears 0;", 5, 42);
         Check.buildIs(x, "pier p; joint a; card k from p to a bears 31;", 5, 42);
         Check.buildIs(x, "pier p; joint a; card k from p to a bears 999999; pier p;", 5, 42);
-        Check.buildIs(x, twelveJoints() + "joint j;", 4, twelveJoints().length() + 6);
-        Check.buildIs(x, twelveJoints() + "pier j;", 4, twelveJoints().length() + 5);
-        Check.buildIs(x, twelveJoints() + "pier j5;", 2, twelveJoints().length() + 5);
-        String full = twelveJoints() + twelveCards();
+        Check.buildIs(x, Bridges.joints(12) + "joint j;", 4, Bridges.joints(12).length() + 6);
+        Check.buildIs(x, Bridges.joints(12) + "pier j;", 4, Bridges.joints(12).length() + 5);
+        Check.buildIs(x, Bridges.joints(12) + "pier j5;", 2, Bridges.joints(12).length() + 5);
+        String full = Bridges.joints(12) + twelveCards();
         Check.buildIs(x, full + "card c from z to z bears 0;", 4, full.length() + 5);
         Check.buildIs(x, full + "card c7 from z to z bears 0;", 2, full.length() + 5);
         Check.write(x, " ");
@@ -264,7 +239,7 @@ public final class PromiseTests {
     }
 
     private static void run() {
-        CardBridge x = small();
+        CardBridge x = Bridges.small();
         Check.runIs(x, "", 0, -1);
         Check.same("statements of an empty script", x.count(9), 0);
         Check.runIs(x, "put a 3; put b 2; take a 1; cut k; cut k; cut m; glue m; glue m;", 0, -1);
@@ -294,7 +269,7 @@ public final class PromiseTests {
     }
 
     private static void runErrors() {
-        CardBridge x = small();
+        CardBridge x = Bridges.small();
         x.put(1, 7);
         Check.run(x, "write 8;");
         x.clear();
@@ -350,7 +325,7 @@ public final class PromiseTests {
     }
 
     private static void depth() {
-        CardBridge x = small();
+        CardBridge x = Bridges.small();
         Check.writes(x, "write ((((((((1))))))));", "1|");
         Check.runIs(x, "write (((((((((1)))))))));", 1, 14);
         Check.writes(x, "write --------1;", "1|");
@@ -380,7 +355,7 @@ public final class PromiseTests {
     }
 
     private static void sums() {
-        CardBridge x = small();
+        CardBridge x = Bridges.small();
         Check.writes(x, "write 1 + 2 * 3 - 4 / 2;", "5|");
         Check.writes(x, "write 10 - 3 - 2;", "5|");
         Check.writes(x, "write 100 / 5 / 2 * 3;", "30|");
@@ -407,7 +382,7 @@ public final class PromiseTests {
     }
 
     private static void testsOfScripts() {
-        CardBridge x = small();
+        CardBridge x = Bridges.small();
         Check.writes(x, "if 1 < 2 [write 1;] if 2 < 2 [write 2;] if 3 < 2 [write 3;]", "1|");
         Check.writes(x, "if 1 > 2 [write 1;] if 2 > 2 [write 2;] if 3 > 2 [write 3;]", "3|");
         Check.writes(x, "if 1 = 2 [write 1;] if 2 = 2 [write 2;] if 3 = 2 [write 3;]", "2|");
@@ -438,16 +413,16 @@ public final class PromiseTests {
         Check.same("the beams bear more", x.count(5), 0);
         Check.writes(x, "if holds [write 1;] else [write 2;]", "1|");
         // The sets that fit are told behind the test to the left, and ahead of the one to the right.
-        CardBridge y = single(5);
+        CardBridge y = Bridges.single(5);
         y.put(1, 10);
         Check.writes(y, "if fits = 2 and not holds and fits = 1 [write 1;]", "1|");
-        CardBridge z = single(5);
+        CardBridge z = Bridges.single(5);
         z.put(1, 10);
         Check.writes(z, "if fits = 1 or holds or fits = 2 [write 1;] else [write 2;]", "2|");
     }
 
     private static void loadsOfScripts() {
-        CardBridge x = small();
+        CardBridge x = Bridges.small();
         Check.run(x, "put a 61;");
         Check.same("a load is held at 60", x.joint(1, 1), 60);
         Check.run(x, "take a 61;");
@@ -471,7 +446,7 @@ public final class PromiseTests {
     }
 
     private static void writing() {
-        CardBridge x = small();
+        CardBridge x = Bridges.small();
         Check.run(x, "repeat 40 [ write 123456; write -12345; ]");
         // 71 times 7 bytes
         Check.same("the paper holds 497 bytes", x.count(7), 497);
@@ -492,7 +467,7 @@ public final class PromiseTests {
     }
 
     private static void tooManyStatements() {
-        CardBridge x = small();
+        CardBridge x = Bridges.small();
         Check.runIs(x, "repeat 39 [ repeat 9 [ ] ] repeat 40 [ put c 1; ] repeat 20 [ if 1 = 1 [ ] put a 1; ] put b 1;"
                 + Check.times(20, "put b 1;"), 0, -1);
         Check.same("statements ahead of the limit", x.count(9), 40 + 41 + 41 + 21);
@@ -500,27 +475,27 @@ public final class PromiseTests {
         String script = "repeat 40 [ put a 1; put a 1; put a 1; put a 1; take a 1; take a 1; take a 1; take a 1; cut k; ]";
         Check.runIs(x, script + Check.times(39, "put b 1;"), 0, -1);
         Check.same("400 statements", x.count(9), 400);
-        CardBridge y = small();
+        CardBridge y = Bridges.small();
         Check.runIs(y, script + Check.times(39, "put b 1;") + "\n put c 5; put c 5;", 7, script.length() + 39 * 8 + 2);
         Check.same("400 statements of more", y.count(9), 400);
         Check.same("what was done stays", y.joint(2, 1), 39);
         Check.same("the 401st is not carried out", y.joint(4, 1), 0);
         // 1 + 39 * 10 = 391, and in the last turn 9 more ahead of the repeat that is the 401st
-        CardBridge z = small();
+        CardBridge z = Bridges.small();
         Check.runIs(z, "repeat 40 [ repeat 8 [ write 1; ] repeat 1 [ ] ]", 7, 34);
         Check.same("400 statements in blocks", z.count(9), 400);
         // An if that is the 401st does not test; as the 400th it does, and what is in its block is too much.
-        CardBridge u = small();
+        CardBridge u = Bridges.small();
         Check.runIs(u, script + Check.times(39, "put b 1;") + "if holds [ ]", 7, script.length() + 39 * 8);
         Check.same("the 401st tests nothing", u.count(5), 0);
-        CardBridge v = small();
+        CardBridge v = Bridges.small();
         int at = script.length() + 38 * 8;
         Check.runIs(v, script + Check.times(38, "put b 1;") + "if not holds or holds [ put c 9; ]", 7, at + 24);
         Check.same("the 400th tests", v.count(5), 2);
         Check.same("the first one in its block is not carried out", v.joint(4, 1), 0);
-        CardBridge w = small();
+        CardBridge w = Bridges.small();
         Check.runIs(w, script + Check.times(38, "put b 1;") + "if 1 = 2 [ ] else [ take c 9; ]", 7, at + 20);
-        CardBridge r = small();
+        CardBridge r = Bridges.small();
         Check.runIs(r, script + Check.times(38, "put b 1;") + "repeat 40 [ ]", 0, -1);
         Check.same("the next run begins anew", Check.run(r, "write 1;"), 0);
         Check.same("and counts anew", r.count(9), 1);
@@ -541,7 +516,7 @@ public final class PromiseTests {
     }
 
     private static void count() {
-        CardBridge x = small();
+        CardBridge x = Bridges.small();
         x.put(0, 1);
         x.put(1, 3);
         x.put(4, 50);
@@ -560,7 +535,7 @@ public final class PromiseTests {
     }
 
     private static void joint() {
-        CardBridge x = small();
+        CardBridge x = Bridges.small();
         x.put(2, 17);
         int[][] due = {{1, 0, 1, 1}, {0, 0, 2, 1}, {0, 17, 2, 1}, {1, 0, 1, 1}, {0, 0, 0, 0}};
         for (int j = 0; j < 5; j++) {
@@ -582,7 +557,7 @@ public final class PromiseTests {
         Check.throwsOnly("joint(0, -1)", x, Check.INDEX, () -> x.joint(0, -1));
         CardBridge y = new CardBridge();
         // A ring of twelve, told against its direction, so that ways are long both ways round.
-        Check.build(y, twelveJoints() + twelveCards());
+        Check.build(y, Bridges.joints(12) + twelveCards());
         y.cut(0);
         Check.same("the way round hangs j1", y.joint(1, 3), 1);
         y.cut(6);
@@ -591,7 +566,7 @@ public final class PromiseTests {
     }
 
     private static void card() {
-        CardBridge x = small();
+        CardBridge x = Bridges.small();
         int[][] due = {{0, 1, 4, 0}, {1, 2, 6, 0}, {3, 2, 3, 0}};
         x.hide(0);
         for (int c = 0; c < 3; c++) {
@@ -609,7 +584,7 @@ public final class PromiseTests {
     }
 
     private static void hide() {
-        CardBridge x = small();
+        CardBridge x = Bridges.small();
         x.put(1, 14);
         Check.isFalse("no beam, 14 on a", x.holds());
         Check.same("one test", x.count(5), 1);
@@ -635,7 +610,7 @@ public final class PromiseTests {
     }
 
     private static void put() {
-        CardBridge x = small();
+        CardBridge x = Bridges.small();
         Check.same("put", x.put(1, 60), 0);
         Check.same("put again", x.put(1, 0), 60);
         Check.same("put on a pier", x.put(0, 3), 0);
@@ -648,7 +623,7 @@ public final class PromiseTests {
     }
 
     private static void cut() {
-        CardBridge x = small();
+        CardBridge x = Bridges.small();
         Check.same("cut", x.cut(2), 1);
         Check.same("cut another", x.cut(0), 2);
         Check.same("cut glues", x.cut(2), 1);
@@ -659,7 +634,7 @@ public final class PromiseTests {
     }
 
     private static void holds() {
-        CardBridge x = small();
+        CardBridge x = Bridges.small();
         Check.isTrue("without loads", x.holds());
         x.put(1, 7);
         Check.isTrue("7 on a go by k and, by m, n", x.holds());
@@ -694,7 +669,7 @@ public final class PromiseTests {
 
     /** The 31st test is told, but not kept. */
     private static void firstThirty() {
-        CardBridge x = single(5);
+        CardBridge x = Bridges.single(5);
         for (int i = 1; i <= 30; i++) {
             Check.isTrue("test " + i, x.holds());
             Check.same("tests that are kept", x.count(5), i);
@@ -711,7 +686,7 @@ public final class PromiseTests {
         Check.same("one is kept", x.count(5), 1);
         Check.same("and tells of beams", x.count(6), 1);
         // A test is kept with the loads and the cuts of its time.
-        CardBridge y = small();
+        CardBridge y = Bridges.small();
         y.hide(1);
         y.put(2, 13);
         y.cut(0);
@@ -725,7 +700,7 @@ public final class PromiseTests {
     }
 
     private static void bears() {
-        CardBridge x = small();
+        CardBridge x = Bridges.small();
         Check.same("nothing", x.bears(), 0);
         x.put(1, 30);
         Check.same("30 on a", x.bears(), 7);
@@ -744,7 +719,7 @@ public final class PromiseTests {
     }
 
     private static void blame() {
-        CardBridge x = small();
+        CardBridge x = Bridges.small();
         Check.same("nobody", x.blame(), 0);
         x.put(1, 7);
         Check.same("just held", x.blame(), 0);
@@ -775,7 +750,7 @@ public final class PromiseTests {
     }
 
     private static void removal() {
-        CardBridge x = small();
+        CardBridge x = Bridges.small();
         Check.same("without loads it holds without cards", x.removal(), -1);
         x.put(1, 4);
         Check.same("k holds 4, n does not", x.removal(), 1);
@@ -822,7 +797,7 @@ public final class PromiseTests {
     }
 
     private static void most() {
-        CardBridge x = small();
+        CardBridge x = Bridges.small();
         Check.same("most on a", x.most(1), 7);
         Check.same("most on b", x.most(2), 7);
         Check.same("most on c", x.most(4), 0);
@@ -849,7 +824,7 @@ public final class PromiseTests {
     }
 
     private static void fit() {
-        CardBridge x = small();
+        CardBridge x = Bridges.small();
         int[] due = {0, 1, 2, 3, 4, 5, 6};
         for (int i = 0; i < due.length; i++) {
             Check.same("fit(" + i + ")", x.fit(i), due[i]);
@@ -875,7 +850,7 @@ public final class PromiseTests {
             Check.same("fit(" + i + ") behind two tests", x.fit(i), last[i]);
         }
         CardBridge y = new CardBridge();
-        Check.build(y, twelveJoints() + twelveCards());
+        Check.build(y, Bridges.joints(12) + twelveCards());
         int before = -1;
         for (int i = 0; i < 79; i++) {
             Check.isTrue("sets ascend", y.fit(i) > before && Integer.bitCount(y.fit(i)) <= 2);
@@ -885,7 +860,7 @@ public final class PromiseTests {
     }
 
     private static void sure() {
-        CardBridge x = small();
+        CardBridge x = Bridges.small();
         for (int c = 0; c < 3; c++) {
             Check.same("sure(" + c + ") ahead of tests", x.sure(c), 2);
         }
@@ -903,7 +878,7 @@ public final class PromiseTests {
     }
 
     private static void would() {
-        CardBridge x = small();
+        CardBridge x = Bridges.small();
         x.hide(2);
         x.put(2, 30);
         Check.same("held with 15 on b", x.would(2, 15, true), 4);
@@ -929,7 +904,7 @@ public final class PromiseTests {
 
     private static void advise() {
         for (int j = 0; j < 5; j++) {
-            CardBridge x = small();
+            CardBridge x = Bridges.small();
             int due = 0;
             int fewest = 99;
             for (int load = 0; load <= 60; load++) {
@@ -942,7 +917,7 @@ public final class PromiseTests {
             Check.same("advise(" + j + ")", x.advise(j), due);
         }
         // With 6 to 15 a beam in k alone tells all: of these loads the least is told.
-        CardBridge y = single(5);
+        CardBridge y = Bridges.single(5);
         Check.same("of several the least", y.advise(1), 6);
         Check.same("at a pier all loads tell as much", y.advise(0), 0);
         y.put(1, 7);
@@ -959,7 +934,7 @@ public final class PromiseTests {
     }
 
     private static void safe() {
-        CardBridge x = small();
+        CardBridge x = Bridges.small();
         x.hide(2);
         Check.same("any beams, also none", x.safe(2), 7);
         Check.same("at a pier", x.safe(0), 60);
@@ -980,7 +955,7 @@ public final class PromiseTests {
     }
 
     private static void byteAt() {
-        CardBridge x = small();
+        CardBridge x = Bridges.small();
         Check.throwsOnly("byteAt(0) of an empty paper", x, Check.INDEX, () -> x.byteAt(0));
         Check.run(x, "write -30;");
         int[] due = {'-', '3', '0', '\n'};
@@ -992,7 +967,7 @@ public final class PromiseTests {
     }
 
     private static void clear() {
-        CardBridge x = small();
+        CardBridge x = Bridges.small();
         Check.run(x, "write 55; write 6;");
         Check.same("clear", x.clear(), 5);
         Check.same("the paper is empty", x.count(7), 0);
@@ -1002,7 +977,7 @@ public final class PromiseTests {
     }
 
     private static void share() {
-        CardBridge x = small();
+        CardBridge x = Bridges.small();
         Check.isTrue("1 without loads", x.share() == 1.0);
         x.put(1, 7);
         Check.isTrue("all is borne", x.share() == 1.0);
@@ -1025,7 +1000,7 @@ public final class PromiseTests {
         empty = (empty * 31 + 0) * 31 * 31 + 0;
         empty = empty * 31 - 1;
         Check.same("digest() of a new object", new CardBridge().digest(), empty);
-        CardBridge x = small();
+        CardBridge x = Bridges.small();
         Check.same("digest()", x.digest(), reckonedDigest(x));
         x.put(1, 5);
         x.hide(1);
