@@ -532,7 +532,7 @@ public final class CardBridge {
         }
 
         int kindAt(int token) {
-            return has(token) ? kinds[token] : END;
+            return token >= 0 && token < size && token <= TOKENS_MAX ? kinds[token] : END;
         }
 
         int startAt(int token) {
@@ -950,8 +950,9 @@ public final class CardBridge {
             return hasJoint(joint) && isIn(joint, piers);
         }
 
+        // What is asked of the bridge deep inside a reckoning tests its number by itself: calls go at most eight deep.
         int loadOf(int joint) {
-            return hasJoint(joint) ? loads[joint] : 0;
+            return joint >= 0 && joint < joints && joint < JOINTS_MAX ? loads[joint] : 0;
         }
 
         void setLoad(int joint, int load) {
@@ -969,15 +970,15 @@ public final class CardBridge {
         }
 
         int fromOf(int card) {
-            return hasCard(card) ? froms[card] : NONE;
+            return card >= 0 && card < cards && card < CARDS_MAX ? froms[card] : NONE;
         }
 
         int toOf(int card) {
-            return hasCard(card) ? tos[card] : NONE;
+            return card >= 0 && card < cards && card < CARDS_MAX ? tos[card] : NONE;
         }
 
         int bearingOf(int card) {
-            return hasCard(card) ? bearings[card] : 0;
+            return card >= 0 && card < cards && card < CARDS_MAX ? bearings[card] : 0;
         }
 
         void setCut(int card, boolean isCut) {
@@ -1133,13 +1134,8 @@ public final class CardBridge {
             return bridge.allLoads() - notBorne(0, bridge.cutCards(), NONE, 0);
         }
 
-        /** Whether the bridge holds with these beams, and with this load of one joint (NONE: with all as they are). */
-        boolean isHeld(int beams, int joint, int load) {
-            return notBorne(beams, bridge.cutCards(), joint, load) == 0;
-        }
-
-        /** How much of all loads does not come to piers with these beams and cuts, and this load of one joint. */
-        private int notBorne(int beams, int cutCards, int joint, int load) {
+        /** How much does not come to piers with these beams and cuts, and this load of one joint (NONE: all as they are). */
+        int notBorne(int beams, int cutCards, int joint, int load) {
             layCards(beams, cutCards);
             putLoads(joint, load);
             // Each way takes at least 1 of the loads along.
@@ -1155,7 +1151,7 @@ public final class CardBridge {
 
         /** The greatest load of a joint with which the bridge holds with these beams; -1 if there is none. */
         int greatestLoad(int joint, int beams) {
-            if (!isHeld(beams, joint, 0)) {
+            if (notBorne(beams, bridge.cutCards(), joint, 0) > 0) {
                 return NONE;
             }
             // The other loads hold, so what is missing with the greatest load is missing from this joint alone.
@@ -1163,7 +1159,7 @@ public final class CardBridge {
         }
 
         int cardsToBlame() {
-            if (isHeld(0, NONE, 0)) {
+            if (notBorne(0, bridge.cutCards(), NONE, 0) == 0) {
                 return 0;
             }
             // What the last, vain search for a way reached is the least of the sets that let too little out.
@@ -1178,7 +1174,7 @@ public final class CardBridge {
         }
 
         int fewestToCut() {
-            if (!isHeld(0, NONE, 0)) {
+            if (notBorne(0, bridge.cutCards(), NONE, 0) > 0) {
                 return 0;
             }
             int used = usedCards();
@@ -1285,9 +1281,11 @@ public final class CardBridge {
         private void sendAlongWay() {
             int amount = LOAD_MAX;
             int root = goal;
-            for (int n = 0; n < JOINTS_MAX && cardTo(root) != NONE; n++) {
-                amount = Math.min(amount, roomTo(root));
-                root = jointAhead(root);
+            int card = cardTo(root);
+            for (int n = 0; n < JOINTS_MAX && card != NONE; n++) {
+                amount = Math.min(amount, roomTo(root, card));
+                root = otherEnd(root, card);
+                card = cardTo(root);
             }
             if (root < 0 || root >= JOINTS_MAX) {
                 return;
@@ -1295,10 +1293,11 @@ public final class CardBridge {
             amount = Math.min(amount, left[root]);
             left[root] -= amount;
             int at = goal;
-            for (int n = 0; n < JOINTS_MAX && cardTo(at) != NONE; n++) {
-                int before = jointAhead(at);
-                sendTo(at, amount);
-                at = before;
+            card = cardTo(at);
+            for (int n = 0; n < JOINTS_MAX && card != NONE; n++) {
+                sendTo(at, card, amount);
+                at = otherEnd(at, card);
+                card = cardTo(at);
             }
         }
 
@@ -1307,24 +1306,21 @@ public final class CardBridge {
             return joint >= 0 && joint < JOINTS_MAX ? via[joint] : NONE;
         }
 
-        private int jointAhead(int joint) {
-            int card = cardTo(joint);
+        private int otherEnd(int joint, int card) {
             if (card < 0 || card >= CARDS_MAX) {
                 return NONE;
             }
             return tos[card] == joint ? froms[card] : tos[card];
         }
 
-        private int roomTo(int joint) {
-            int card = cardTo(joint);
+        private int roomTo(int joint, int card) {
             if (card < 0 || card >= CARDS_MAX) {
                 return 0;
             }
             return tos[card] == joint ? forth[card] : back[card];
         }
 
-        private void sendTo(int joint, int amount) {
-            int card = cardTo(joint);
+        private void sendTo(int joint, int card, int amount) {
             if (card < 0 || card >= CARDS_MAX) {
                 return;
             }
@@ -1373,14 +1369,15 @@ public final class CardBridge {
 
         /** Tells whether the bridge holds; a test that is kept leaves only the sets that tell the same. */
         boolean testBridge() {
-            boolean isHeld = flow.isHeld(bridge.beams(), NONE, 0);
+            boolean isHeld = flow.notBorne(bridge.beams(), bridge.cutCards(), NONE, 0) == 0;
             if (tests < TESTS_MAX) {
                 tests++;
                 int before = size;
                 size = 0;
                 for (int i = 0; i < SETS_MAX && i < before; i++) {
                     int set = sets[i];
-                    if (flow.isHeld(set, NONE, 0) == isHeld) {
+                    boolean wouldHold = flow.notBorne(set, bridge.cutCards(), NONE, 0) == 0;
+                    if (wouldHold == isHeld) {
                         add(set);
                     }
                 }
@@ -1401,7 +1398,8 @@ public final class CardBridge {
         int setsLeft(int joint, int load, boolean isHeld) {
             int left = 0;
             for (int i = 0; i < SETS_MAX && i < size; i++) {
-                if (flow.isHeld(sets[i], joint, load) == isHeld) {
+                boolean wouldHold = flow.notBorne(sets[i], bridge.cutCards(), joint, load) == 0;
+                if (wouldHold == isHeld) {
                     left++;
                 }
             }
@@ -1610,7 +1608,10 @@ public final class CardBridge {
                     at++;
                     return bridge.isHanging(nextNumber());
                 default:
-                    return isComparedSo(depth);
+                    int one = sum(depth);
+                    int comparison = tokens.kindAt(at);
+                    at++;
+                    return isSo(one, comparison, sum(depth));
             }
         }
 
@@ -1621,11 +1622,7 @@ public final class CardBridge {
             return is;
         }
 
-        private boolean isComparedSo(int depth) {
-            int one = sum(depth);
-            int comparison = tokens.kindAt(at);
-            at++;
-            int other = sum(depth);
+        private static boolean isSo(int one, int comparison, int other) {
             switch (comparison) {
                 case '<':
                     return one < other;
@@ -1679,7 +1676,7 @@ public final class CardBridge {
                 case LOAD:
                     return bridge.loadOf(nextNumber());
                 case BEARS:
-                    return flow.borne();
+                    return bridge.allLoads() - flow.notBorne(0, bridge.cutCards(), NONE, 0);
                 case ALL:
                     return bridge.allLoads();
                 case FITS:
